@@ -573,6 +573,17 @@ public final class PromisesTest {
         dueCollections(x, 1, 0);
     }
 
+    private static void reachOverEachField() {
+        TwoGenerations x = new TwoGenerations(2, 60, 40);
+        x.make(0, 11);
+        for (int i = 0; i < 11; i++) {
+            x.make(1, 1);
+            x.store(0, i, 1);
+            due("reach over field " + i, x.reach(0), 12 + 2 * (i + 1));
+        }
+        dueCells(x, 34, 0);
+    }
+
     private static void reachFar() {
         TwoGenerations x = new TwoGenerations(2, 60, 120);
         for (int k = 1; k <= 90; k++) {
@@ -833,7 +844,8 @@ public final class PromisesTest {
             {PromisesTest::fields},
             {PromisesTest::same},
             {PromisesTest::generation},
-            {PromisesTest::reach, PromisesTest::reachFar},
+            {PromisesTest::reach, PromisesTest::reachOverEachField,
+                PromisesTest::reachFar},
             {PromisesTest::small, PromisesTest::smallKeepsWhatUnreachedOldOnesReach,
                 PromisesTest::smallKeepsTargetsThatBecomeOld,
                 PromisesTest::smallComesAfterGreatOnlyWhenTight, PromisesTest::smallFails,
