@@ -1,82 +1,6 @@
 /** Each promise of the document by hand: ordinary inputs, the edges it names, wrong inputs. */
-public final class PromisesTest {
-    private static final int NULL = 0;
-    private static final int INT = 1;
-    private static final int OBJECT = 2;
-    private static final int WEAK = 3;
-    private static final int[] NO_REGISTERS =
-            {-1, 4, 5, 8, Integer.MAX_VALUE, Integer.MIN_VALUE};
-
-    private static int promise = 0;
-    private static int wrong = 0;
-
-    private interface Call {
-        void run();
-    }
-
-    private static void due(String what, long got, long want) {
-        if (got != want) {
-            wrong++;
-            System.out.println("promise " + promise + ": " + what + " is " + got + ", due is " + want);
-        }
-    }
-
-    private static void due(String what, boolean got, boolean want) {
-        due(what, got ? 1 : 0, want ? 1 : 0);
-    }
-
-    private static Class<?> thrownBy(Call call) {
-        try {
-            call.run();
-            return null;
-        } catch (RuntimeException e) {
-            return e.getClass();
-        }
-    }
-
-    private static void dueThrow(String what, Call call, Class<?> want) {
-        Class<?> got = thrownBy(call);
-        if (got != want) {
-            wrong++;
-            System.out.println("promise " + promise + ": " + what + " throws " + got + ", due is " + want);
-        }
-    }
-
-    private static void refused(String what, Call call) {
-        dueThrow(what, call, IllegalArgumentException.class);
-    }
-
-    private static void fails(String what, Call call) {
-        dueThrow(what, call, IllegalStateException.class);
-    }
-
-    private static void dueCells(TwoGenerations x, int young, int old) {
-        due("cells(0)", x.cells(0), young);
-        due("cells(1)", x.cells(1), old);
-    }
-
-    private static void dueCollections(TwoGenerations x, int small, int great) {
-        due("collections(0)", x.collections(0), small);
-        due("collections(1)", x.collections(1), great);
-    }
-
-    /** Puts an object in front of the chain in register 0; it takes two cells. */
-    private static void prolongChain(TwoGenerations x) {
-        x.make(1, 1);
-        x.store(1, 0, 0);
-        x.move(0, 1);
-    }
-
-    /** Four registers, YOUNG 6, OLD 6; register 0 holds a chain that fills the old cells. */
-    private static TwoGenerations withFullOld() {
-        TwoGenerations x = new TwoGenerations(4, 6, 6);
-        for (int k = 0; k < 3; k++) {
-            prolongChain(x);
-        }
-        x.clear(1);
-        x.small();
-        return x;
-    }
+public final class PromisesTest extends Checks {
+    private static final int[] NO_REGISTERS = besides(4);
 
     // Promise 1
 
@@ -377,18 +301,18 @@ public final class PromisesTest {
 
     private static void number() {
         TwoGenerations x = new TwoGenerations(4, 16, 40);
-        for (int v : new int[] {0, 1, -1, 77, 1073741823, -1073741824}) {
+        for (int v : new int[] {0, 1, -1, 77, HIGHEST_INT, LOWEST_INT}) {
             x.number(3, v);
             due("kind", x.kind(3), INT);
             due("value", x.value(3), v);
         }
-        for (int v : new int[] {1073741824, -1073741825, Integer.MAX_VALUE, Integer.MIN_VALUE}) {
+        for (int v : new int[] {HIGHEST_INT + 1, LOWEST_INT - 1, Integer.MAX_VALUE, Integer.MIN_VALUE}) {
             refused("number " + v, () -> x.number(3, v));
         }
         for (int r : NO_REGISTERS) {
             refused("number into register " + r, () -> x.number(r, 1));
         }
-        due("value", x.value(3), -1073741824);
+        due("value", x.value(3), LOWEST_INT);
         dueCells(x, 0, 0);
     }
 
@@ -434,16 +358,6 @@ public final class PromisesTest {
 
     // Promises 10 to 14
 
-    /** Register 0 an old object of two fields, 1 the int 6, 2 a young weak cell, 3 null. */
-    private static TwoGenerations withEachKind() {
-        TwoGenerations x = new TwoGenerations(4, 16, 40);
-        x.make(0, 2);
-        x.small();
-        x.number(1, 6);
-        x.weak(2, 0);
-        return x;
-    }
-
     private static void kind() {
         TwoGenerations x = withEachKind();
         due("kind", x.kind(0), OBJECT);
@@ -455,7 +369,7 @@ public final class PromisesTest {
         x.number(1, 0);
         due("kind of 0", x.kind(1), INT);
         for (int r : NO_REGISTERS) {
-            due("kind of register " + r, x.kind(r), TwoGenerations.NONE);
+            due("kind of register " + r, x.kind(r), NONE);
         }
     }
 
@@ -473,15 +387,15 @@ public final class PromisesTest {
     private static void fields() {
         TwoGenerations x = withEachKind();
         due("fields", x.fields(0), 2);
-        due("fields", x.fields(1), TwoGenerations.NONE);
-        due("fields", x.fields(2), TwoGenerations.NONE);
-        due("fields", x.fields(3), TwoGenerations.NONE);
+        due("fields", x.fields(1), NONE);
+        due("fields", x.fields(2), NONE);
+        due("fields", x.fields(3), NONE);
         x.make(3, 0);
         due("no fields", x.fields(3), 0);
         x.make(3, 11);
         due("most fields", x.fields(3), 11);
         for (int r : NO_REGISTERS) {
-            due("fields of register " + r, x.fields(r), TwoGenerations.NONE);
+            due("fields of register " + r, x.fields(r), NONE);
         }
     }
 
@@ -497,7 +411,7 @@ public final class PromisesTest {
                 due("same(" + r + ", " + r + ")", x.same(r, r), false);
             }
         }
-        for (int v : new int[] {6, 0, 1073741823, -1073741824}) {
+        for (int v : new int[] {6, 0, HIGHEST_INT, LOWEST_INT}) {
             x.number(1, v);
             x.number(3, v);
             due("equal ints", x.same(1, 3), true);
@@ -521,11 +435,11 @@ public final class PromisesTest {
     private static void generation() {
         TwoGenerations x = withEachKind();
         due("generation", x.generation(0), 1);
-        due("generation", x.generation(1), TwoGenerations.NONE);
+        due("generation", x.generation(1), NONE);
         due("generation", x.generation(2), 0);
-        due("generation", x.generation(3), TwoGenerations.NONE);
+        due("generation", x.generation(3), NONE);
         for (int r : NO_REGISTERS) {
-            due("generation of register " + r, x.generation(r), TwoGenerations.NONE);
+            due("generation of register " + r, x.generation(r), NONE);
         }
         x.great();
         due("generation after a great collection", x.generation(2), 0);
@@ -808,7 +722,7 @@ public final class PromisesTest {
         TwoGenerations x = withEachKind();
         dueCells(x, 2, 3);
         for (int g : new int[] {-1, 2, 3, Integer.MAX_VALUE, Integer.MIN_VALUE}) {
-            due("cells(" + g + ")", x.cells(g), TwoGenerations.NONE);
+            due("cells(" + g + ")", x.cells(g), NONE);
         }
     }
 
@@ -818,7 +732,7 @@ public final class PromisesTest {
         x.great();
         dueCollections(x, 1, 2);
         for (int w : new int[] {-1, 2, 3, Integer.MAX_VALUE, Integer.MIN_VALUE}) {
-            due("collections(" + w + ")", x.collections(w), TwoGenerations.NONE);
+            due("collections(" + w + ")", x.collections(w), NONE);
         }
         TwoGenerations y = withFullOld();
         dueCollections(y, 1, 0);
@@ -855,16 +769,12 @@ public final class PromisesTest {
             {PromisesTest::cells},
             {PromisesTest::collections},
         };
-        for (Call[] ofPromise : calls) {
-            promise++;
-            for (Call call : ofPromise) {
+        for (int k = 0; k < calls.length; k++) {
+            at("promise " + (k + 1));
+            for (Call call : calls[k]) {
                 dueThrow("the whole test", call, null);
             }
         }
-        System.out.println(wrong == 0 ? "all " + promise + " promises hold"
-                : wrong + " answers are not as due");
-        if (wrong != 0) {
-            System.exit(1);
-        }
+        end("all " + calls.length + " promises hold");
     }
 }
