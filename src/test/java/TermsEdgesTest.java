@@ -356,6 +356,33 @@ public final class TermsEdgesTest extends Checks {
         due("generation of what it told of", x.generation(0), 1);
     }
 
+    /**
+     * Register 1 a young weak cell; only an old object that nothing reaches reaches its target,
+     * which is young.
+     */
+    private static TwoGenerations withTargetOfAnUnreachedOldOne() {
+        TwoGenerations x = new TwoGenerations(3, 16, 40);
+        x.make(0, 1);
+        x.small();
+        x.make(2, 2);
+        x.store(0, 0, 2);
+        x.weak(1, 2);
+        x.clear(0);
+        x.clear(2);
+        return x;
+    }
+
+    private static void greatCutsATargetThatOnlyAGoneOldOneReaches() {
+        TwoGenerations x = withTargetOfAnUnreachedOldOne();
+        due("great()", x.great(), 2);
+        dueCells(x, 5, 0);
+        x.number(0, 1);
+        x.target(0, 1);
+        due("kind of the target", x.kind(0), NULL);
+        due("small()", x.small(), 2);
+        dueCells(x, 0, 2);
+    }
+
     private static void greatLeavesUnreachedYoung() {
         TwoGenerations x = new TwoGenerations(2, 16, 40);
         x.make(0, 3);
@@ -601,6 +628,15 @@ public final class TermsEdgesTest extends Checks {
         x.target(0, 1);
         due("generation of the target", x.generation(0), 1);
         dueCells(x, 0, 3);
+    }
+
+    private static void smallKeepsATargetThatOnlyAnUnreachedOldOneReaches() {
+        TwoGenerations x = withTargetOfAnUnreachedOldOne();
+        due("small()", x.small(), 5);
+        dueCells(x, 0, 7);
+        x.target(0, 1);
+        due("fields of the target", x.fields(0), 2);
+        due("generation of the target", x.generation(0), 1);
     }
 
     // Making
@@ -1014,6 +1050,8 @@ public final class TermsEdgesTest extends Checks {
                     TermsEdgesTest::greatCutsATargetThatOnlyItselfReaches),
             new Words("is not reached from the registers has null instead",
                     TermsEdgesTest::greatCutsATargetThatOnlyATargetReaches),
+            new Words("is not reached from the registers has null instead",
+                    TermsEdgesTest::greatCutsATargetThatOnlyAGoneOldOneReaches),
             new Words("stays until the next small collection",
                     TermsEdgesTest::greatLeavesUnreachedYoung),
             new Words("the old objects", TermsEdgesTest::greatMakesNothingOld),
@@ -1045,6 +1083,8 @@ public final class TermsEdgesTest extends Checks {
                     TermsEdgesTest::smallCutsTargetsThatAreGone),
             new Words("whose target is gone", TermsEdgesTest::smallKeepsTargetsThatBecomeOld),
             new Words("whose target is gone", TermsEdgesTest::smallKeepsAnUnreachedOldTarget),
+            new Words("whose target is gone",
+                    TermsEdgesTest::smallKeepsATargetThatOnlyAnUnreachedOldOneReaches),
         });
         runEach("making", new Words[] {
             new Words("more than YOUNG cells", TermsEdgesTest::makeToTheLastYoungCell),
