@@ -129,7 +129,7 @@ public final class TwoGenerations {
         trace.restart();
         trace.find(heldIn(register));
         trace.follow();
-        return trace.foundCells();
+        return trace.cells;
     }
 
     public int small() throws IllegalStateException {
@@ -321,8 +321,9 @@ public final class TwoGenerations {
         int reachedCells() {
             int cells = 0;
             for (int k = 0; k < count; k++) {
-                if (things[k].isReached) {
-                    cells += things[k].size;
+                Thing thing = things[k];
+                if (thing != null && thing.isReached) {
+                    cells += thing.size;
                 }
             }
             return cells;
@@ -340,8 +341,9 @@ public final class TwoGenerations {
             int before = count;
             empty();
             for (int k = 0; k < before; k++) {
-                if (things[k].isReached) {
-                    add(things[k]);
+                Thing thing = things[k];
+                if (thing != null && thing.isReached) {
+                    add(thing);
                 }
             }
         }
@@ -349,7 +351,7 @@ public final class TwoGenerations {
         void adoptReached(Generation younger) {
             for (int k = 0; k < younger.count; k++) {
                 Thing thing = younger.things[k];
-                if (thing.isReached) {
+                if (thing != null && thing.isReached) {
                     thing.isOld = true;
                     add(thing);
                 }
@@ -361,6 +363,7 @@ public final class TwoGenerations {
     private static final class Trace {
         final Thing[] found;
         int count;
+        int cells;
 
         Trace(int most) {
             this.found = new Thing[most];
@@ -368,9 +371,13 @@ public final class TwoGenerations {
 
         void restart() {
             for (int k = 0; k < count; k++) {
-                found[k].isReached = false;
+                Thing thing = found[k];
+                if (thing != null) {
+                    thing.isReached = false;
+                }
             }
             count = 0;
+            cells = 0;
         }
 
         void find(Value value) {
@@ -378,6 +385,7 @@ public final class TwoGenerations {
                 thing.isReached = true;
                 found[count] = thing;
                 count++;
+                cells += thing.size;
             }
         }
 
@@ -400,14 +408,6 @@ public final class TwoGenerations {
             for (int i = 0; i < plain.contents.length; i++) {
                 find(plain.contents[i]);
             }
-        }
-
-        int foundCells() {
-            int cells = 0;
-            for (int k = 0; k < count; k++) {
-                cells += found[k].size;
-            }
-            return cells;
         }
     }
 }
